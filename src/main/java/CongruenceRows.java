@@ -435,10 +435,8 @@ public final class CongruenceRows {
 
         /** Of terms alike each is joined with the least, so that none is left out, in whatever order. */
         void joinAlike(int t) {
-            long alike = alike(terms.signs[t], terms.firsts[t], terms.seconds[t], terms.thirds[t]);
-            if (alike != 0) {
-                join(t, Long.numberOfTrailingZeros(alike));
-            }
+            long found = alike(terms.signs[t], terms.firsts[t], terms.seconds[t], terms.thirds[t]);
+            join(t, leastOf(found));
         }
 
         /** The terms of a sign whose places' terms are one with these. */
@@ -458,9 +456,8 @@ public final class CongruenceRows {
 
         /** Of one row's terms of one builder each has its places joined with those of the least. */
         void joinPlaces(int t) {
-            long peers = members[names[t]] & terms.ofSign[terms.signs[t]];
-            int least = Long.numberOfTrailingZeros(peers);
-            if (least >= t) {
+            int least = leastOf(members[names[t]] & terms.ofSign[terms.signs[t]]);
+            if (least == NONE || least == t) {
                 return;
             }
             join(terms.firsts[t], terms.firsts[least]);

@@ -168,6 +168,11 @@ public final class PromiseTests {
         check.due("3: what fails makes nothing", 2, () -> x.about(0));
         check.due("3: and uses nothing", 2, () -> x.about(2));
         check.due("3: so the sign is free", 2, () -> x.term(2, 0, 0, 0));
+        check.due("3: two for three", ARGUMENT, () -> of(x, 2, 0, 0));
+        check.due("3: one for three", ARGUMENT, () -> of(x, 2, 0));
+        check.due("3: another sign", 3, () -> of(x, 3, 0, 0));
+        check.due("3: three for two", ARGUMENT, () -> x.term(3, 0, 0, 0));
+        check.due("3: one for two", ARGUMENT, () -> of(x, 3, 0));
     }
 
     private void termSixtyFirst() {
@@ -210,6 +215,12 @@ public final class PromiseTests {
         }
         x.fact(0, 3, true);
         check.due("4: facts change nothing in it", 1, () -> x.part(0, 4));
+        CongruenceRows y = sixPlain();
+        int f = of(y, 6, 5);
+        int g = y.term(7, 0, 1, f);
+        int h = y.term(7, 0, f, 2);
+        check.due("4: each place counts", 5, () -> y.part(g, 4));
+        check.due("4: the second place too", 5, () -> y.part(h, 4));
     }
 
     private void fact() {
@@ -427,6 +438,10 @@ public final class PromiseTests {
         check.due("8: half of a ring", false, y::clashes);
         y.fact(right, 0, true);
         check.due("8: a ring of two, third places", true, y::clashes);
+        y.undo();
+        int middle = y.term(2, 2, left, 2);
+        y.fact(middle, 0, true);
+        check.due("8: a ring by way of a second place", true, y::clashes);
     }
 
     private void isOther() {

@@ -1,4 +1,5 @@
 import java.util.ArrayList;
+import java.util.Arrays;
 import java.util.List;
 
 /**
@@ -7,7 +8,6 @@ import java.util.List;
  */
 final class Reference {
     private static final int NONE = -1;
-    private static final String NO_TERM = "no such term";
 
     private record Term(int sign, List<Integer> places) {
     }
@@ -183,7 +183,7 @@ final class Reference {
 
     private void must(int t) {
         if (!isThere(t)) {
-            throw new IndexOutOfBoundsException(NO_TERM);
+            throw new IndexOutOfBoundsException("no such term");
         }
     }
 
@@ -214,7 +214,7 @@ final class Reference {
     /** The facts from the last to the first, each left out if the rest still does. */
     private long shrink(int a, int b) {
         boolean[] in = new boolean[facts.size()];
-        java.util.Arrays.fill(in, true);
+        Arrays.fill(in, true);
         if (!does(in, a, b)) {
             return NONE;
         }

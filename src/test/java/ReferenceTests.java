@@ -34,7 +34,7 @@ public final class ReferenceTests {
         int calls = run % 20 == 0 ? CALLS / 2 : CALLS - signs;
         for (int call = 0; call < calls && !check.hasFailed(); call++) {
             if (next(wrong) == 0) {
-                callAny(made, due, signs, run);
+                callAny(made, due, run);
             } else if (due.about(0) < mostTerms && next(3) != 0) {
                 callTerm(made, due, next(signs), signs);
             } else {
@@ -103,7 +103,7 @@ public final class ReferenceTests {
     }
 
     /** Any call with any numbers. */
-    private void callAny(CongruenceRows made, Reference due, int signs, int run) {
+    private void callAny(CongruenceRows made, Reference due, int run) {
         int s = odd(run);
         int a = odd(run);
         int b = odd(run);
