@@ -1,22 +1,15 @@
-import java.lang.reflect.Constructor;
-import java.lang.reflect.Field;
-import java.lang.reflect.Method;
-import java.lang.reflect.Modifier;
-import java.util.TreeSet;
-
 /** Each promise of the document by itself: ordinary inputs, the edges that it names, wrong inputs. */
 public final class PromiseTests {
-    private static final int NONE = -1;
-    private static final String BOUNDS = "throws.IndexOutOfBoundsException";
-    private static final String STATE = "throws.IllegalStateException";
-    private static final String ARGUMENT = "throws.IllegalArgumentException";
+    private static final int NONE = Make.NONE;
+    private static final String BOUNDS = Make.BOUNDS;
+    private static final String STATE = Make.STATE;
+    private static final String ARGUMENT = Make.ARGUMENT;
     private static final int[] NO_TERMS = {-2, -1, 60, 64, Integer.MIN_VALUE, Integer.MAX_VALUE};
 
     private final Check check = new Check();
 
     public static void main(String[] args) {
         PromiseTests tests = new PromiseTests();
-        tests.face();
         tests.newObject();
         tests.builder();
         tests.term();
@@ -43,53 +36,6 @@ public final class PromiseTests {
         tests.check.end();
     }
 
-    private static Object builder(CongruenceRows x, int sign) {
-        x.builder(sign);
-        return "nothing";
-    }
-
-    private static int plain(CongruenceRows x, int sign) {
-        return x.term(sign, NONE, NONE, NONE);
-    }
-
-    private static int of(CongruenceRows x, int sign, int a) {
-        return x.term(sign, a, NONE, NONE);
-    }
-
-    private static int of(CongruenceRows x, int sign, int a, int b) {
-        return x.term(sign, a, b, NONE);
-    }
-
-    /** Signs 0 .. 5 without places: terms 0 .. 5. */
-    private static CongruenceRows sixPlain() {
-        CongruenceRows x = new CongruenceRows();
-        for (int sign = 0; sign < 6; sign++) {
-            plain(x, sign);
-        }
-        return x;
-    }
-
-    private void face() {
-        TreeSet<String> open = new TreeSet<>();
-        for (Method m : CongruenceRows.class.getDeclaredMethods()) {
-            if (!Modifier.isPrivate(m.getModifiers())) {
-                open.add(m.getName() + m.getParameterCount() + m.getReturnType());
-            }
-        }
-        for (Field f : CongruenceRows.class.getDeclaredFields()) {
-            if (!Modifier.isPrivate(f.getModifiers())) {
-                open.add(f.getName());
-            }
-        }
-        check.due("face", "[NONE, about1int, builder1void, clash0long, clashes0boolean, fact3int, idle0long, "
-                + "isOne2boolean, isOther2boolean, part2int, reason2long, row2int, term4int, undo0boolean]",
-                () -> open);
-        Constructor<?>[] makers = CongruenceRows.class.getDeclaredConstructors();
-        check.due("constructors", 1, () -> makers.length);
-        check.due("class is final", true, () -> Modifier.isFinal(CongruenceRows.class.getModifiers()));
-        check.due("NONE", -1, () -> CongruenceRows.NONE);
-    }
-
     private void newObject() {
         CongruenceRows x = new CongruenceRows();
         for (int what = 0; what < 3; what++) {
@@ -103,7 +49,7 @@ public final class PromiseTests {
         check.due("1: part", NONE, () -> x.part(0, 0));
         check.due("1: isOne", BOUNDS, () -> x.isOne(0, 0));
         check.due("1: row", BOUNDS, () -> x.row(0, 0));
-        plain(x, 7);
+        Make.plain(x, 7);
         check.due("1: no builders", NONE, () -> x.row(0, 2));
         CongruenceRows y = new CongruenceRows();
         check.due("1: objects are apart", 0, () -> y.about(0));
@@ -112,91 +58,91 @@ public final class PromiseTests {
     private void builder() {
         CongruenceRows x = new CongruenceRows();
         for (int sign : new int[] {-1, 16, -2, Integer.MIN_VALUE, Integer.MAX_VALUE}) {
-            check.due("2: no sign " + sign, BOUNDS, () -> builder(x, sign));
+            check.due("2: no sign " + sign, BOUNDS, () -> Make.builder(x, sign));
         }
-        check.due("2: first sign", "nothing", () -> builder(x, 0));
-        check.due("2: last sign", "nothing", () -> builder(x, 15));
-        check.due("2: twice", "nothing", () -> builder(x, 15));
+        check.due("2: first sign", "nothing", () -> Make.builder(x, 0));
+        check.due("2: last sign", "nothing", () -> Make.builder(x, 15));
+        check.due("2: twice", "nothing", () -> Make.builder(x, 15));
         check.due("2: is not use", 0, () -> x.about(2));
-        plain(x, 15);
+        Make.plain(x, 15);
         check.due("2: is a builder", 0, () -> x.row(0, 2));
-        check.due("2: used builder", STATE, () -> builder(x, 15));
-        plain(x, 1);
-        check.due("2: used", STATE, () -> builder(x, 1));
+        check.due("2: used builder", STATE, () -> Make.builder(x, 15));
+        Make.plain(x, 1);
+        check.due("2: used", STATE, () -> Make.builder(x, 1));
         check.due("2: used stays no builder", NONE, () -> x.row(1, 2));
-        check.due("2: a term that fails", BOUNDS, () -> of(x, 2, 9));
-        check.due("2: is no use", "nothing", () -> builder(x, 2));
+        check.due("2: a term that fails", BOUNDS, () -> Make.of(x, 2, 9));
+        check.due("2: is no use", "nothing", () -> Make.builder(x, 2));
     }
 
     private void term() {
         CongruenceRows x = new CongruenceRows();
-        check.due("3: first", 0, () -> plain(x, 15));
-        check.due("3: one place", 1, () -> of(x, 1, 0));
-        check.due("3: two places", 2, () -> of(x, 2, 0, 1));
+        check.due("3: first", 0, () -> Make.plain(x, 15));
+        check.due("3: one place", 1, () -> Make.of(x, 1, 0));
+        check.due("3: two places", 2, () -> Make.of(x, 2, 0, 1));
         check.due("3: three places", 3, () -> x.term(3, 0, 1, 2));
-        check.due("3: the same of none", 0, () -> plain(x, 15));
-        check.due("3: the same of one", 1, () -> of(x, 1, 0));
-        check.due("3: the same of two", 2, () -> of(x, 2, 0, 1));
+        check.due("3: the same of none", 0, () -> Make.plain(x, 15));
+        check.due("3: the same of one", 1, () -> Make.of(x, 1, 0));
+        check.due("3: the same of two", 2, () -> Make.of(x, 2, 0, 1));
         check.due("3: the same of three", 3, () -> x.term(3, 0, 1, 2));
-        check.due("3: the other way round", 4, () -> of(x, 2, 1, 0));
+        check.due("3: the other way round", 4, () -> Make.of(x, 2, 1, 0));
         check.due("3: third place differs", 5, () -> x.term(3, 0, 1, 1));
-        check.due("3: another sign of the same", 6, () -> of(x, 4, 0));
+        check.due("3: another sign of the same", 6, () -> Make.of(x, 4, 0));
         check.due("3: behind the first NONE, none", 0, () -> x.term(15, NONE, 77, -5));
         check.due("3: behind the first NONE, one", 1, () -> x.term(1, 0, NONE, 77));
         x.fact(0, 1, true);
-        check.due("3: one is not the same", 7, () -> of(x, 1, 1));
-        check.due("3: by sign, not by row", 1, () -> of(x, 1, 0));
+        check.due("3: one is not the same", 7, () -> Make.of(x, 1, 1));
+        check.due("3: by sign, not by row", 1, () -> Make.of(x, 1, 0));
     }
 
     private void termOrderOfExceptions() {
         CongruenceRows x = new CongruenceRows();
-        plain(x, 0);
-        of(x, 1, 0);
+        Make.plain(x, 0);
+        Make.of(x, 1, 0);
         for (int sign : new int[] {-1, 16, Integer.MIN_VALUE, Integer.MAX_VALUE}) {
-            check.due("3: no sign " + sign, BOUNDS, () -> plain(x, sign));
+            check.due("3: no sign " + sign, BOUNDS, () -> Make.plain(x, sign));
         }
         for (int t : new int[] {-2, 2, 60, Integer.MIN_VALUE, Integer.MAX_VALUE}) {
-            check.due("3: no term first " + t, BOUNDS, () -> of(x, 2, t));
-            check.due("3: no term second " + t, BOUNDS, () -> of(x, 2, 0, t));
+            check.due("3: no term first " + t, BOUNDS, () -> Make.of(x, 2, t));
+            check.due("3: no term second " + t, BOUNDS, () -> Make.of(x, 2, 0, t));
             check.due("3: no term third " + t, BOUNDS, () -> x.term(2, 0, 0, t));
-            check.due("3: no term, wrong places " + t, BOUNDS, () -> of(x, 1, 0, t));
+            check.due("3: no term, wrong places " + t, BOUNDS, () -> Make.of(x, 1, 0, t));
         }
-        check.due("3: more than none", ARGUMENT, () -> of(x, 0, 0));
-        check.due("3: fewer than one", ARGUMENT, () -> plain(x, 1));
-        check.due("3: more than one", ARGUMENT, () -> of(x, 1, 0, 0));
+        check.due("3: more than none", ARGUMENT, () -> Make.of(x, 0, 0));
+        check.due("3: fewer than one", ARGUMENT, () -> Make.plain(x, 1));
+        check.due("3: more than one", ARGUMENT, () -> Make.of(x, 1, 0, 0));
         check.due("3: three for one", ARGUMENT, () -> x.term(1, 0, 0, 0));
         check.due("3: what fails makes nothing", 2, () -> x.about(0));
         check.due("3: and uses nothing", 2, () -> x.about(2));
         check.due("3: so the sign is free", 2, () -> x.term(2, 0, 0, 0));
-        check.due("3: two for three", ARGUMENT, () -> of(x, 2, 0, 0));
-        check.due("3: one for three", ARGUMENT, () -> of(x, 2, 0));
-        check.due("3: another sign", 3, () -> of(x, 3, 0, 0));
+        check.due("3: two for three", ARGUMENT, () -> Make.of(x, 2, 0, 0));
+        check.due("3: one for three", ARGUMENT, () -> Make.of(x, 2, 0));
+        check.due("3: another sign", 3, () -> Make.of(x, 3, 0, 0));
         check.due("3: three for two", ARGUMENT, () -> x.term(3, 0, 0, 0));
-        check.due("3: one for two", ARGUMENT, () -> of(x, 3, 0));
+        check.due("3: one for two", ARGUMENT, () -> Make.of(x, 3, 0));
     }
 
     private void termSixtyFirst() {
         CongruenceRows x = new CongruenceRows();
-        plain(x, 0);
+        Make.plain(x, 0);
         for (int t = 1; t < 60; t++) {
             int want = t;
-            check.due("3: a chain, " + t, want, () -> of(x, 1, want - 1));
+            check.due("3: a chain, " + t, want, () -> Make.of(x, 1, want - 1));
         }
-        check.due("3: the 61st", STATE, () -> of(x, 1, 59));
-        check.due("3: the 61st of a new sign", STATE, () -> plain(x, 2));
+        check.due("3: the 61st", STATE, () -> Make.of(x, 1, 59));
+        check.due("3: the 61st of a new sign", STATE, () -> Make.plain(x, 2));
         check.due("3: that was no use", 2, () -> x.about(2));
-        check.due("3: one that is there", 59, () -> of(x, 1, 58));
-        check.due("3: wrong places come first", ARGUMENT, () -> of(x, 1, 59, 59));
-        check.due("3: no term comes first", BOUNDS, () -> of(x, 1, 60));
+        check.due("3: one that is there", 59, () -> Make.of(x, 1, 58));
+        check.due("3: wrong places come first", ARGUMENT, () -> Make.of(x, 1, 59, 59));
+        check.due("3: no term comes first", BOUNDS, () -> Make.of(x, 1, 60));
         check.due("3: still 60", 60, () -> x.about(0));
         check.due("4: sixty stand in the last", 60, () -> x.part(59, 4));
     }
 
     private void part() {
         CongruenceRows x = new CongruenceRows();
-        plain(x, 5);
-        of(x, 6, 0);
-        of(x, 7, 1, 0);
+        Make.plain(x, 5);
+        Make.of(x, 6, 0);
+        Make.of(x, 7, 1, 0);
         x.term(8, 2, 1, 2);
         int[][] want = {{5, -1, -1, -1, 1}, {6, 0, -1, -1, 2}, {7, 1, 0, -1, 3}, {8, 2, 1, 2, 4}};
         for (int t = 0; t < 4; t++) {
@@ -215,8 +161,8 @@ public final class PromiseTests {
         }
         x.fact(0, 3, true);
         check.due("4: facts change nothing in it", 1, () -> x.part(0, 4));
-        CongruenceRows y = sixPlain();
-        int f = of(y, 6, 5);
+        CongruenceRows y = Make.sixPlain();
+        int f = Make.of(y, 6, 5);
         int g = y.term(7, 0, 1, f);
         int h = y.term(7, 0, f, 2);
         check.due("4: each place counts", 5, () -> y.part(g, 4));
@@ -224,7 +170,7 @@ public final class PromiseTests {
     }
 
     private void fact() {
-        CongruenceRows x = sixPlain();
+        CongruenceRows x = Make.sixPlain();
         check.due("5: first", 0, () -> x.fact(0, 1, true));
         check.due("5: OTHER", 1, () -> x.fact(2, 3, false));
         check.due("5: again counts again", 2, () -> x.fact(0, 1, true));
@@ -250,7 +196,7 @@ public final class PromiseTests {
     }
 
     private void undo() {
-        CongruenceRows x = sixPlain();
+        CongruenceRows x = Make.sixPlain();
         check.due("6: none", false, x::undo);
         x.fact(0, 1, true);
         x.fact(1, 2, true);
@@ -273,11 +219,11 @@ public final class PromiseTests {
     }
 
     private void isOneByPlaces() {
-        CongruenceRows x = sixPlain();
-        int fa = of(x, 6, 0);
-        int fb = of(x, 6, 1);
-        int g = of(x, 7, 0, 2);
-        int h = of(x, 7, 1, 3);
+        CongruenceRows x = Make.sixPlain();
+        int fa = Make.of(x, 6, 0);
+        int fb = Make.of(x, 6, 1);
+        int g = Make.of(x, 7, 0, 2);
+        int h = Make.of(x, 7, 1, 3);
         int k = x.term(8, fa, 4, g);
         int l = x.term(8, fb, 4, h);
         check.due("7: itself", true, () -> x.isOne(0, 0));
@@ -297,9 +243,9 @@ public final class PromiseTests {
             check.due("7: no term " + t, BOUNDS, () -> x.isOne(t, 0));
             check.due("7: no term behind " + t, BOUNDS, () -> x.isOne(0, t));
         }
-        CongruenceRows y = sixPlain();
-        int p = of(y, 6, 0);
-        int q = of(y, 6, 1);
+        CongruenceRows y = Make.sixPlain();
+        int p = Make.of(y, 6, 0);
+        int q = Make.of(y, 6, 1);
         y.fact(p, q, true);
         check.due("7: not downward without builders", false, () -> y.isOne(0, 1));
     }
@@ -309,14 +255,14 @@ public final class PromiseTests {
         x.builder(6);
         x.builder(7);
         for (int sign = 0; sign < 6; sign++) {
-            plain(x, sign);
+            Make.plain(x, sign);
         }
         int p = x.term(6, 0, 1, 2);
         int q = x.term(6, 3, 4, 5);
-        int r = of(x, 7, p);
-        int s = of(x, 7, q);
-        int u = of(x, 8, 0);
-        int v = of(x, 8, 3);
+        int r = Make.of(x, 7, p);
+        int s = Make.of(x, 7, q);
+        int u = Make.of(x, 8, 0);
+        int v = Make.of(x, 8, 3);
         check.due("7: nothing by itself", false, () -> x.isOne(p, q));
         x.fact(r, 5, true);
         x.fact(5, s, true);
@@ -330,11 +276,11 @@ public final class PromiseTests {
         CongruenceRows y = new CongruenceRows();
         y.builder(1);
         y.builder(2);
-        plain(y, 0);
-        plain(y, 3);
-        int a = of(y, 1, 0);
-        int b = of(y, 2, 0);
-        int c = of(y, 2, 1);
+        Make.plain(y, 0);
+        Make.plain(y, 3);
+        int a = Make.of(y, 1, 0);
+        int b = Make.of(y, 2, 0);
+        int c = Make.of(y, 2, 1);
         y.fact(a, b, true);
         check.due("7: two builders in a row", true, y::clashes);
         y.fact(a, c, true);
@@ -343,17 +289,17 @@ public final class PromiseTests {
     }
 
     private void isOneOfLaterTerms() {
-        CongruenceRows x = sixPlain();
+        CongruenceRows x = Make.sixPlain();
         x.fact(0, 1, true);
         check.due("7: rows before", 5, () -> x.row(0, 3));
-        int fa = of(x, 6, 0);
-        int fb = of(x, 6, 1);
+        int fa = Make.of(x, 6, 0);
+        int fb = Make.of(x, 6, 1);
         check.due("7: terms after the fact", true, () -> x.isOne(fa, fb));
         check.due("7: reason of later terms", 1, () -> x.reason(fb, fa));
         CongruenceRows y = new CongruenceRows();
-        plain(y, 0);
+        Make.plain(y, 0);
         for (int t = 1; t < 13; t++) {
-            of(y, 1, t - 1);
+            Make.of(y, 1, t - 1);
         }
         y.fact(12, 0, true);
         y.fact(8, 0, true);
@@ -362,17 +308,17 @@ public final class PromiseTests {
     }
 
     private void clashesByOther() {
-        CongruenceRows x = sixPlain();
-        int fa = of(x, 6, 0);
-        int fb = of(x, 6, 1);
+        CongruenceRows x = Make.sixPlain();
+        int fa = Make.of(x, 6, 0);
+        int fb = Make.of(x, 6, 1);
         x.fact(fa, fb, false);
         check.due("8: OTHER alone", false, x::clashes);
         x.fact(0, 1, true);
         check.due("8: OTHER of terms that follow", true, x::clashes);
-        CongruenceRows y = sixPlain();
+        CongruenceRows y = Make.sixPlain();
         y.fact(3, 3, false);
         check.due("8: OTHER with itself", true, y::clashes);
-        CongruenceRows z = sixPlain();
+        CongruenceRows z = Make.sixPlain();
         z.fact(0, 1, false);
         z.fact(1, 2, false);
         z.fact(0, 2, true);
@@ -384,7 +330,7 @@ public final class PromiseTests {
         x.builder(0);
         x.builder(1);
         for (int sign = 0; sign < 4; sign++) {
-            plain(x, sign);
+            Make.plain(x, sign);
         }
         x.fact(2, 3, true);
         check.due("8: no builders", false, x::clashes);
@@ -394,10 +340,10 @@ public final class PromiseTests {
         check.due("8: two builders", true, x::clashes);
         CongruenceRows y = new CongruenceRows();
         y.builder(1);
-        plain(y, 0);
-        plain(y, 2);
-        int a = of(y, 1, 0);
-        int b = of(y, 1, 1);
+        Make.plain(y, 0);
+        Make.plain(y, 2);
+        int a = Make.of(y, 1, 0);
+        int b = Make.of(y, 1, 1);
         y.fact(a, b, true);
         check.due("8: the same builder", false, y::clashes);
     }
@@ -406,12 +352,12 @@ public final class PromiseTests {
         CongruenceRows x = new CongruenceRows();
         x.builder(1);
         x.builder(2);
-        plain(x, 0);
-        int s = of(x, 1, 0);
-        int p = of(x, 2, s, s);
-        int q = of(x, 1, p);
-        int n = of(x, 3, q);
-        int m = of(x, 1, n);
+        Make.plain(x, 0);
+        int s = Make.of(x, 1, 0);
+        int p = Make.of(x, 2, s, s);
+        int q = Make.of(x, 1, p);
+        int n = Make.of(x, 3, q);
+        int m = Make.of(x, 1, n);
         x.fact(0, q, true);
         check.due("8: three builders deep", true, x::clashes);
         x.undo();
@@ -429,9 +375,9 @@ public final class PromiseTests {
 
         CongruenceRows y = new CongruenceRows();
         y.builder(2);
-        plain(y, 0);
-        plain(y, 1);
-        plain(y, 3);
+        Make.plain(y, 0);
+        Make.plain(y, 1);
+        Make.plain(y, 3);
         int left = y.term(2, 2, 2, 0);
         int right = y.term(2, 2, 2, 1);
         y.fact(left, 1, true);
@@ -448,11 +394,11 @@ public final class PromiseTests {
         CongruenceRows x = new CongruenceRows();
         x.builder(1);
         x.builder(2);
-        plain(x, 0);
-        plain(x, 3);
-        int s = of(x, 1, 0);
-        int r = of(x, 1, 1);
-        int p = of(x, 2, 0);
+        Make.plain(x, 0);
+        Make.plain(x, 3);
+        int s = Make.of(x, 1, 0);
+        int r = Make.of(x, 1, 1);
+        int p = Make.of(x, 2, 0);
         check.due("9: nothing against it", false, () -> x.isOther(0, 1));
         check.due("9: itself", false, () -> x.isOther(s, s));
         check.due("9: two builders", true, () -> x.isOther(s, p));
@@ -482,7 +428,7 @@ public final class PromiseTests {
         x.builder(2);
         x.builder(5);
         for (int sign = 0; sign < 7; sign++) {
-            plain(x, sign);
+            Make.plain(x, sign);
         }
         x.fact(6, 4, true);
         x.fact(5, 6, true);
@@ -509,7 +455,7 @@ public final class PromiseTests {
     }
 
     private void reason() {
-        CongruenceRows x = sixPlain();
+        CongruenceRows x = Make.sixPlain();
         check.due("11: not one", NONE, () -> x.reason(0, 1));
         check.due("11: itself, without facts", 0, () -> x.reason(0, 0));
         x.fact(0, 2, true);
@@ -529,12 +475,12 @@ public final class PromiseTests {
             check.due("11: no term " + t, BOUNDS, () -> x.reason(t, 0));
             check.due("11: no term behind " + t, BOUNDS, () -> x.reason(0, t));
         }
-        CongruenceRows y = sixPlain();
+        CongruenceRows y = Make.sixPlain();
         y.fact(0, 1, true);
         y.fact(0, 2, true);
         y.fact(2, 1, true);
         check.due("11: the first is enough", 1, () -> y.reason(0, 1));
-        CongruenceRows z = sixPlain();
+        CongruenceRows z = Make.sixPlain();
         z.fact(0, 3, true);
         z.fact(0, 2, true);
         z.fact(3, 1, true);
@@ -542,21 +488,9 @@ public final class PromiseTests {
         check.due("11: by way of facts ahead", 5, () -> z.reason(0, 1));
     }
 
-    /** Terms 0 .. 9 without places, and 50 of one sign and two of these each, so that none follow. */
-    private static CongruenceRows sixtyApart() {
-        CongruenceRows x = new CongruenceRows();
-        for (int sign = 0; sign < 10; sign++) {
-            plain(x, sign);
-        }
-        for (int t = 10; t < 60; t++) {
-            of(x, 10, t / 10, t % 10);
-        }
-        return x;
-    }
-
     /** A chain of 41 terms needs each of 40 facts, the highest bits with them. */
     private void reasonOfMany() {
-        CongruenceRows x = sixtyApart();
+        CongruenceRows x = Make.sixtyApart();
         for (int f = 0; f < 40; f++) {
             x.fact(1, 1, true);
         }
@@ -577,10 +511,10 @@ public final class PromiseTests {
         CongruenceRows x = new CongruenceRows();
         x.builder(1);
         x.builder(2);
-        plain(x, 0);
-        plain(x, 3);
-        int s = of(x, 1, 0);
-        int p = of(x, 2, 0);
+        Make.plain(x, 0);
+        Make.plain(x, 3);
+        int s = Make.of(x, 1, 0);
+        int p = Make.of(x, 2, 0);
         check.due("12: without one", NONE, x::clash);
         x.fact(1, s, true);
         x.fact(0, 1, false);
@@ -601,7 +535,7 @@ public final class PromiseTests {
         check.due("12: below", 3, x::clash);
         x.fact(1, 1, false);
         check.due("12: the later one is left out", 3, x::clash);
-        CongruenceRows y = sixPlain();
+        CongruenceRows y = Make.sixPlain();
         y.fact(2, 2, false);
         y.fact(0, 1, true);
         y.fact(0, 1, false);
@@ -609,7 +543,7 @@ public final class PromiseTests {
     }
 
     private void clashOfMany() {
-        CongruenceRows x = sixtyApart();
+        CongruenceRows x = Make.sixtyApart();
         x.fact(59, 20, false);
         for (int f = 0; f < 39; f++) {
             check.due("12: not yet", NONE, x::clash);
@@ -619,9 +553,9 @@ public final class PromiseTests {
     }
 
     private void idle() {
-        CongruenceRows x = sixPlain();
-        int fa = of(x, 6, 0);
-        int fb = of(x, 6, 2);
+        CongruenceRows x = Make.sixPlain();
+        int fa = Make.of(x, 6, 0);
+        int fb = Make.of(x, 6, 2);
         check.due("13: no facts", 0, x::idle);
         x.fact(0, 1, true);
         x.fact(1, 2, true);
@@ -632,26 +566,26 @@ public final class PromiseTests {
         x.fact(5, 5, true);
         x.fact(5, 5, false);
         check.due("13: by a third, by places, itself", 4 + 16 + 64, x::idle);
-        CongruenceRows y = sixPlain();
-        int ga = of(y, 6, 0);
-        int gb = of(y, 6, 1);
+        CongruenceRows y = Make.sixPlain();
+        int ga = Make.of(y, 6, 0);
+        int gb = Make.of(y, 6, 1);
         y.fact(ga, gb, true);
         y.fact(0, 1, true);
         check.due("13: only by facts ahead", 0, y::idle);
         CongruenceRows z = new CongruenceRows();
         z.builder(2);
-        plain(z, 0);
-        plain(z, 1);
-        z.fact(of(z, 2, 0), of(z, 2, 1), true);
+        Make.plain(z, 0);
+        Make.plain(z, 1);
+        z.fact(Make.of(z, 2, 0), Make.of(z, 2, 1), true);
         z.fact(1, 0, true);
         check.due("13: by builders", 2, z::idle);
     }
 
     private void about() {
-        CongruenceRows x = sixPlain();
-        of(x, 9, 0);
-        of(x, 9, 1);
-        of(x, 9, 1);
+        CongruenceRows x = Make.sixPlain();
+        Make.of(x, 9, 0);
+        Make.of(x, 9, 1);
+        Make.of(x, 9, 1);
         x.fact(0, 1, true);
         x.fact(0, 1, false);
         check.due("14: terms", 8, () -> x.about(0));
@@ -664,7 +598,7 @@ public final class PromiseTests {
         check.due("14: facts after undo", 1, () -> x.about(1));
         for (int sign = 6; sign < 16; sign++) {
             if (sign != 9) {
-                plain(x, sign);
+                Make.plain(x, sign);
             }
         }
         check.due("14: all signs", 16, () -> x.about(2));
@@ -674,10 +608,10 @@ public final class PromiseTests {
     private void fullObject() {
         CongruenceRows x = new CongruenceRows();
         x.builder(1);
-        plain(x, 0);
-        plain(x, 2);
+        Make.plain(x, 0);
+        Make.plain(x, 2);
         for (int t = 2; t < 60; t++) {
-            of(x, 1, t - 2);
+            Make.of(x, 1, t - 2);
         }
         x.fact(58, 59, true);
         check.due("7: down the whole chain", true, () -> x.isOne(0, 1));

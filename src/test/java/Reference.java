@@ -197,6 +197,9 @@ final class Reference {
     }
 
     private void markInside(int t, boolean[] inside) {
+        if (inside[t]) {
+            return;
+        }
         inside[t] = true;
         for (int place : terms.get(t).places()) {
             markInside(place, inside);
